@@ -621,49 +621,41 @@ public final class WoolBridge {
                 next++;
             }
             start = next;
-            value = 0;
-            if (next >= size) {
-                token = END;
-            } else if (isLetter(bytes[next])) {
-                takeLetters();
-            } else if (isDigit(bytes[next])) {
-                takeNumber();
-            } else {
-                token = bytes[next] == ';' ? SEMICOLON : WRONG;
-                next++;
+            token = next < size ? tokenBegunBy(bytes[next]) : END;
+            if (token == END) {
+                return;
             }
-        }
-
-        private void takeLetters() {
-            int first = bytes[start];
-            while (next < size && isLetter(bytes[next])) {
-                next++;
-            }
-            token = LETTERS;
-            value = next - start == 1 ? first : 0;
-        }
-
-        /** Three digits are above 99 or begin with a 0, so two are all that is ever reckoned. */
-        private void takeNumber() {
-            int first = bytes[start] - '0';
-            int number = 0;
-            while (next < size && isDigit(bytes[next])) {
-                if (next - start < 2) {
-                    number = number * 10 + bytes[next] - '0';
+            next++;
+            if (token == LETTERS || token == NUMBER) {
+                while (next < size && tokenBegunBy(bytes[next]) == token) {
+                    next++;
                 }
-                next++;
+                weigh(next - start);
             }
-            int digits = next - start;
-            token = digits > 2 || digits == 2 && first == 0 ? WRONG : NUMBER;
-            value = number;
         }
 
-        private static boolean isLetter(int c) {
-            return within(c, 'a', 'z');
+        private static int tokenBegunBy(int c) {
+            if (c >= 'a' && c <= 'z') {
+                return LETTERS;
+            }
+            if (c >= '0' && c <= '9') {
+                return NUMBER;
+            }
+            return c == ';' ? SEMICOLON : WRONG;
         }
 
-        private static boolean isDigit(int c) {
-            return within(c, '0', '9');
+        /** Three digits are above 99 or begin with a 0, so no more than two are ever reckoned. */
+        private void weigh(int length) {
+            int first = bytes[start];
+            if (token == LETTERS) {
+                value = length == 1 ? first : 0;
+            } else if (length == 1) {
+                value = first - '0';
+            } else if (length == 2 && first != '0') {
+                value = (first - '0') * 10 + bytes[start + 1] - '0';
+            } else {
+                token = WRONG;
+            }
         }
     }
 

@@ -111,6 +111,11 @@ public final class PromiseTest {
         due("the least numbers", Check.told("p1 1;k0 1;g1;s0;").now(1), 1);
         due("the greatest gap, slack", Check.told("s30;g30;").count(2), 30);
         due("an empty text", new WoolBridge().gorge(), 0);
+        WoolBridge typedAnew = new WoolBridge();
+        Check.type(typedAnew, "g1234567;");
+        typedAnew.clear();
+        Check.type(typedAnew, "g1");
+        due("what was cleared is not read", typedAnew.gorge(), -12);
     }
 
     private static void gorgeFaults() {
@@ -122,6 +127,8 @@ public final class PromiseTest {
         fault("1;", 0);
         fault(" x;", 1);
         fault("pp1 1;", 0);
+        fault("pa1 1;", 0);
+        fault("pz1 1;", 0);
         fault("P1 1;", 0);
         fault("p0 1;", 1);
         fault("p10 1;", 1);
@@ -154,6 +161,11 @@ public final class PromiseTest {
         fault("g1;" + (char) 0, 3);
         fault("g1;" + (char) 255, 3);
         fault("g1;;", 3);
+        fault("g1;" + " ".repeat(145) + "ss", 148);
+        fault("g1;" + " ".repeat(146) + "s", 150);
+        fault("g" + " ".repeat(147) + "12", 150);
+        fault("g" + "1".repeat(149), 1);
+        fault("g1;s5;" + "p".repeat(144), 6);
     }
 
     private static void fault(String text, int place) {
@@ -193,6 +205,8 @@ public final class PromiseTest {
         due("anew image 0", x.back(0), STATE);
         due("anew image 1", x.back(1), STATE);
         due("anew trace", x.trace(), 1);
+        due("an empty text tells all, too", x.gorge(), 0);
+        due("nobody", x.count(0), 0);
     }
 
     private static void person() {
@@ -250,6 +264,12 @@ public final class PromiseTest {
         rainy.rains(1);
         due("crosses, stretched by rain", rainy.crosses(0), 7);
         due("odd weight is borne by half cut upwards", Check.told("p3 2;k0 3;g1;").crosses(0), 6);
+        WoolBridge old = Check.told("p4 2;k0 3;g1;");
+        Check.times(3, old::year);
+        due("crosses while a quarter of a year counts for nothing", old.crosses(0), 7);
+        old.undo();
+        old.year();
+        due("crosses a year later", old.crosses(0), STATE);
     }
 
     private static void crossesBeyondForty() {
@@ -262,6 +282,9 @@ public final class PromiseTest {
         due("share of those who stay", x.person(1, 2), 20 - 1 - 3 - 9 + 3 + 3);
         due("last is new", x.row(39, 2), 0);
         due("one ahead is old", x.row(20, 2), 1);
+        WoolBridge first = Check.told("p1 9;p1 8;k0 1;k1 20;k1 19;g30;s30;");
+        due("crosses at forty", first.crosses(1), 40);
+        due("just the first went", first.person(0, 2), 0);
     }
 
     private static void turnsBack() {
@@ -273,6 +296,7 @@ public final class PromiseTest {
         due("may be undone", x.count(4), 2);
         x.undo();
         due("undone", x.now(1), 2);
+        due("turnsBack one", Check.told("p1 1;p2 2;k0 2;k1 1;").turnsBack(), 1);
     }
 
     private static void drops() {
@@ -288,6 +312,9 @@ public final class PromiseTest {
             due("drops wrong", x.drops(wrong), BAD);
         }
         due("may be undone", x.count(4), 3);
+        WoolBridge full = Check.told("p1 1;p1 2;k0 20;k0 19;k1 1;");
+        due("drops the fortieth", full.drops(39), 39);
+        due("none is the other one's", full.person(1, 2), 0);
     }
 
     private static void draws() {
@@ -334,6 +361,7 @@ public final class PromiseTest {
         due("year 201", x.year(), STATE);
         due("the year stays", x.now(0), 200);
         due("year without rows", new WoolBridge().year(), 9);
+        due("year of forty rows", Check.told("p1 4;k0 20;k0 20;").year(), 8);
     }
 
     private static void undo() {
@@ -389,6 +417,11 @@ public final class PromiseTest {
         }
         due("bears 9 at most", Check.told("p1 5;k0 1;").now(4), 9);
         due("bears 8", Check.told("p1 4;k0 1;").now(4), 8);
+        WoolBridge thin = Check.told("p1 1;k0 3;");
+        due("thin, the first of several", thin.now(6), 0);
+        thin.draws(0);
+        due("a hole at the first", thin.now(7), 1);
+        due("thin of nines", Check.told("p1 9;k0 3;").now(6), 0);
     }
 
     private static void order() {
@@ -489,6 +522,7 @@ public final class PromiseTest {
         due("mend would be too long", would.mend(0, 1), TOO_LONG);
         due("mend none", Check.told("p9 9;k0 5;g5;s0;").mend(0, 0), 0);
         due("mend from nothing", Check.told("p9 9;g30;").mend(0, 0), 150);
+        due("mend for an even weight", Check.told("p8 9;g30;").mend(0, 0), 120);
     }
 
     private static void odds() {
@@ -579,6 +613,10 @@ public final class PromiseTest {
         Check.times(4, x::year);
         x.plumbs(0, 3);
         due("drew of old rows", x.drew(1), 1);
+        x.forget();
+        x.undo();
+        x.plumbs(0, 4);
+        due("drew of rows three years old", x.drew(1), 1);
     }
 
     private static void night() {
@@ -674,6 +712,15 @@ public final class PromiseTest {
         due("thick again", x.row(2, 1), 5);
         due("back again", x.back(0), 1);
         due("rain again", x.now(3), 1);
+        WoolBridge many = Check.told("p1 5;k0 6;");
+        Check.times(9, many::year);
+        many.keep(1);
+        Check.times(20, many::year);
+        due("back to year 9", many.back(1), 9);
+        for (int left = 7; left >= 0; left--) {
+            due("undo behind back", many.undo(), left);
+            due("the year then", many.now(0), left + 1);
+        }
     }
 
     private static void count() {
