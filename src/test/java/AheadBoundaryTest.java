@@ -249,6 +249,8 @@ public final class AheadBoundaryTest {
         run.same(FULL, "plumbs", 0, 0).due(FULL, "plumbs", 0, 0).due(6, "count", 3);
         run.same(BAD, "plumbs", 40, 0).same(BAD, "plumbs", -1, 0).same(BAD, "plumbs", 0, 10).same(BAD, "plumbs", 0, -1);
         run.due(6, "forget").due(1, "plumbs", 39, 9);
+        Run kept = Run.told(six, "p1 5;k0 2;").times(6, "plumbs", 0, 4).same(FULL, "plumbs", 1, 9).same(BAD, "plumbs", 0, 10);
+        kept.due(FULL, "plumbs", 1, 9).due(1, "drew", 0).due(1, "drew", 1);
     }
 
     private static void forget() {
@@ -274,6 +276,8 @@ public final class AheadBoundaryTest {
         one.call("forget").call("plumbs", 0, 0).due(1, "drew", 0).due(9, "drew", 1);
         one.call("forget").call("plumbs", 0, 8).due(1, "drew", 0).due(1, "drew", 1);
         one.call("forget").call("plumbs", 0, 9).due(39 * 9, "drew", 0).due(11, "drew", 1);
+        Run old = Run.told(sentence, "p1 5;k0 2;").times(3, "year").call("plumbs", 0, 4).due(1, "drew", 0).due(1, "drew", 1);
+        old.call("year").due(9, "drew", 0).due(11, "drew", 1).call("plumbs", 1, 3).due(1, "drew", 0).due(11, "drew", 1);
         String least = "n threads DRAWN (0 at least)";
         Run.told(least, "p1 5;k0 2;").call("plumbs", 1, 0).due(5, "drew", 0).due(15, "drew", 1);
         Run.told(least, "p1 1;k0 2;").call("plumbs", 1, 0).due(9, "drew", 0).due(11, "drew", 1);

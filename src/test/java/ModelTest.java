@@ -6,7 +6,8 @@ import java.util.Random;
 /** Runs of calls, always the same ones, on the class and on the model: all answers must be alike. */
 public final class ModelTest {
     private static final int RUNS = 1500;
-    private static final int CALLS = 600;
+    private static final int CALLS = 512;
+    private static final int TELLING_MOST = 170;
     /** Each call and what it is given, a letter a number (see argument); what stands twice is called twice as often. */
     private static final String[] FACE = {
         "type c", "person pw", "row rw", "crosses p", "crosses p", "crosses p", "drops r", "draws r", "rains b",
@@ -48,7 +49,8 @@ public final class ModelTest {
     private void run() throws ReflectiveOperationException {
         int calls = 0;
         while (calls < CALLS) {
-            if (calls == 0 || random.nextInt(150) == 0) {
+            boolean room = calls + TELLING_MOST <= CALLS;
+            if (calls == 0 || room && random.nextInt(60) == 0) {
                 calls += tell();
             } else {
                 String[] from = random.nextInt(60) == 0 ? RARE : FACE;
@@ -98,7 +100,9 @@ public final class ModelTest {
         }
         call("count w");
         call("gorge");
-        return text.length() + 2;
+        int calls = text.length() + 2;
+        Check.due(name + "calls for a telling, beyond what is reckoned", Math.max(TELLING_MOST, calls), TELLING_MOST);
+        return calls;
     }
 
     private String goodText() {
