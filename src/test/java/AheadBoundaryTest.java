@@ -11,6 +11,7 @@ public final class AheadBoundaryTest {
         order();
         orderByNumbers();
         orderHeld();
+        fortyRowsPushedOut();
         lastOne();
         crossings();
         over();
@@ -78,6 +79,18 @@ public final class AheadBoundaryTest {
         pushed.due(0, "order", -1, 1).due(2, "order", -1, 2).due(NONE, "order", 1, 0).due(NONE, "order", 0, 2);
         Run rain = Run.told(sentence, "p1 9;k0 20;k0 20;g30;s18;").call("rains", 1).due(0, "order", -1, 0);
         rain.read("p1 9;k0 20;k0 20;g30;s17;").due(0, "order", -1, 0).call("rains", 1).due(NONE, "order", -1, 0);
+    }
+
+    /** The last of the 40 rows is too thin for the heavy one; five times eight rows push it out, one row less does not. */
+    private static void fortyRowsPushedOut() {
+        String sentence = "the first ROWS go, if there would be more than 40 (all that were there)";
+        Run gone = Run.told(sentence, "p8 9;p8 9;p8 9;p8 9;p8 9;p9 9;k0 20;k0 20;g30;s30;").times(5, "draws", 39);
+        for (int i = 0; i < 6; i++) {
+            gone.due(i, "order", -1, i).due(i, "order", 5, i).due(NONE, "order", 0, i);
+        }
+        gone.same(NONE, "lastOne").same(30, "crossings", 0).same(0, "crossings", 5);
+        Run stays = Run.told(sentence, "p8 9;p8 9;p8 9;p8 9;p7 9;p9 9;k0 20;k0 20;g30;s30;").times(5, "draws", 39);
+        stays.same(NONE, "order", -1, 0).same(NONE, "order", 5, 0).same(5, "lastOne");
     }
 
     private static void lastOne() {
