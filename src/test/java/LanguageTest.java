@@ -5,6 +5,7 @@ import java.lang.reflect.Method;
 import java.lang.reflect.Modifier;
 import java.nio.file.Files;
 import java.nio.file.Path;
+import java.util.List;
 import java.util.Set;
 import java.util.TreeSet;
 import java.util.regex.Matcher;
@@ -16,6 +17,9 @@ public final class LanguageTest {
     private static final String[] FORBIDDEN = {
         "\\b(throw|throws|try|catch|synchronized|assert|import|package|protected)\\b", "->", "::", "\\w+Exact\\b",
         "\\bstatic\\s*\\{", "\\b(hashCode|toString)\\b", "[^\\x00-\\x7f]"};
+    private static final Pattern METHOD = Pattern.compile(
+        "( +)(?:public |private |static )*(?:([\\w\\[\\]]+) )?(?!(?:if|for|while|switch)\\b)\\w+\\(.*\\) \\{");
+    private static final int METHOD_LINES_MOST = 60;
     private static final Set<String> FACE = new TreeSet<>(Set.of(
         "int type(int)", "int clear()", "int gorge()", "int person(int,int)", "int row(int,int)", "int crosses(int)",
         "int turnsBack()", "int drops(int)", "int draws(int)", "int rains(int)", "int year()", "int undo()",
@@ -26,6 +30,7 @@ public final class LanguageTest {
 
     public static void main(String[] args) throws IOException {
         theText(Files.readString(SOURCE));
+        theMethods(Files.readAllLines(SOURCE));
         theFace();
         theClassesInside();
         Check.end();
@@ -39,6 +44,27 @@ public final class LanguageTest {
                 Check.due("'" + matcher.group() + "' in the text", 1, 0);
             }
         }
+    }
+
+    private static void theMethods(List<String> lines) {
+        int found = 0;
+        for (int i = 0; i < lines.size(); i++) {
+            Matcher header = METHOD.matcher(lines.get(i));
+            if (header.matches()) {
+                found++;
+                List<String> body = lines.subList(i + 1, i + lines.subList(i, lines.size()).indexOf(header.group(1) + "}"));
+                theMethod(lines.get(i).trim(), body, header.group(2) == null);
+            }
+        }
+        Check.due("methods that were looked at, as many as there are calls at least", Math.min(FACE.size(), found), FACE.size());
+    }
+
+    /** What a run makes is counted, so all is made in constructors and used again. */
+    private static void theMethod(String header, List<String> body, boolean constructor) {
+        Check.due("lines of " + header, Math.max(METHOD_LINES_MOST, body.size()), METHOD_LINES_MOST);
+        Pattern making = Pattern.compile("\\b(new|clone|copyOf|copyOfRange)\\b");
+        boolean makes = body.stream().anyMatch(line -> making.matcher(line).find());
+        Check.due("an object made by " + header, makes && !constructor ? 1 : 0, 0);
     }
 
     private static void theFace() {

@@ -10,6 +10,7 @@ public final class PromiseTest {
 
     public static void main(String[] args) {
         aNewObject();
+        objectsStayApart();
         type();
         clear();
         gorge();
@@ -70,6 +71,36 @@ public final class PromiseTest {
         due("new undo", x.undo(), STATE);
         due("new back", x.back(0), STATE);
         due("new trace", x.trace(), 0);
+    }
+
+    private static void objectsStayApart() {
+        WoolBridge x = Check.told("p3 4;k0 8;g7;s9;");
+        x.year();
+        x.rains(1);
+        x.plumbs(0, 4);
+        x.mark(0, 0);
+        x.keep(0);
+        x.type('g');
+        WoolBridge other = new WoolBridge();
+        int[] counts = {0, 6, 6, 0, 0, 0};
+        for (int i = 0; i < counts.length; i++) {
+            due("another object's count " + i, other.count(i), counts[i]);
+        }
+        due("another object's year", other.now(0), 0);
+        due("another object's rows", other.now(1), 0);
+        due("another object's rain", other.now(3), 0);
+        due("another object's trace", other.trace(), 0);
+        due("another object's image", other.back(0), STATE);
+        Check.type(other, "p1 1;p2 2;");
+        other.gorge();
+        other.keep(0);
+        int[] stay = {1, 7, 9, 1, 2, 1};
+        for (int i = 0; i < stay.length; i++) {
+            due("the first object's count " + i, x.count(i), stay[i]);
+        }
+        due("the first object's image", x.back(0), 1);
+        due("the first object's rows", x.now(1), 8);
+        due("the first object's person", x.person(0, 0), 3);
     }
 
     private static void type() {
